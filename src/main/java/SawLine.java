@@ -1158,13 +1158,11 @@ public final class SawLine {
         }
 
         void keepNoAct() {
-            forget();
             length = 0;
             cost = 0;
         }
 
         void keepOneAct(int a) {
-            forget();
             length = 1;
             cost = costOf(a);
             first = toldNumber(a);

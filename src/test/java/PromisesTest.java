@@ -443,12 +443,16 @@ public final class PromisesTest {
         due("17 straightest(1): the least of 8 and 9", x.straightest(1), 8);
         due("17 straightest(3)", x.straightest(3), 8);
         due("9 STEERS stays", x.ofHand(1), 0);
-        // Leans -a and a alike: sign below 0 is taken. GRAIN 0, FENCE none, LATE none.
-        SawLine y = with("c111", "120150160");
         // LEAN a: HEADING -2+a, -1+2a, 1+3a; PLACE -2+a, -3+3a, -2+6a.
         // -1: 3, 6, 8; 0: 2, 3, 2; 1: 1, 0, 4.
+        SawLine y = with("c111", "120150160");
         due("17 straightest(0)", y.straightest(0), 0);
         due("17 straightest(2)", y.straightest(2), 3);
+        // By -1 PLACES 0, -4, -4, -2, -4; by 0 1, -1, -1, -1, -5; by 1 2, 1, 3, 4, -1.
+        SawLine z = with("c111", "150110160140100");
+        z.hand(5, 6, 0);
+        due("17 straightest(0) of -1 and 1", z.straightest(0), -1);
+        due("17 straightest(2) of -1 and 1", z.straightest(2), 4);
     }
 
     private static void flaws() {
