@@ -1,10 +1,6 @@
 /** Each promise of the document by itself: ordinary inputs, its edges, and wrong inputs. */
-public final class PromisesTest {
+public final class PromisesTest extends Bench {
     private static final Due DUE = new Due("PromisesTest");
-    private static final int UNKNOWN = -1, OUTSIDE = -2, STATE = -3, FULL = -4, NONE = -9;
-    private static final long LOST = Long.MIN_VALUE;
-    private static final int NULL = -11, CAST = -12, INDEX = -13, SIZE = -14;
-    private static final int MIN = Integer.MIN_VALUE, MAX = Integer.MAX_VALUE;
 
     private PromisesTest() {
     }
@@ -47,30 +43,6 @@ public final class PromisesTest {
 
     private static void due(String call, long got, long want) {
         DUE.is(call, got, want);
-    }
-
-    private static void write(SawLine x, int sheet, int lane, String text) {
-        x.sheet(sheet, lane, text.length());
-        for (int i = 0; i < text.length(); i++) {
-            x.put(sheet, i, text.charAt(i));
-        }
-    }
-
-    private static int saw(SawLine x, String text) {
-        write(x, 3, 2, text);
-        return x.saw(3, 2, 0, text.length());
-    }
-
-    private static int board(SawLine x, String text) {
-        write(x, 3, 2, text);
-        return x.board(3, 2, 0, text.length());
-    }
-
-    private static SawLine with(String saw, String board) {
-        SawLine x = new SawLine();
-        due("saw of " + saw, saw(x, saw), saw.split(";").length);
-        due("board of " + board, board(x, board), board.length() / 3);
-        return x;
     }
 
     private static void newObject() {
