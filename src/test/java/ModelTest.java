@@ -10,6 +10,7 @@ public final class ModelTest {
     private final SawLine x = new SawLine();
     private final Model m = new Model();
     private final StringBuilder story = new StringBuilder();
+    private int calls = 0;
 
     private ModelTest(int run) {
         this.run = run;
@@ -17,7 +18,7 @@ public final class ModelTest {
     }
 
     public static void main(String[] args) {
-        for (int run = 0; run < 800 && !DUE.anyWrong(); run++) {
+        for (int run = 0; run < 2500 && !DUE.anyWrong(); run++) {
             new ModelTest(run).go();
         }
         DUE.end();
@@ -32,6 +33,7 @@ public final class ModelTest {
     }
 
     private void due(String call, long got, long want) {
+        calls++;
         story.append(' ').append(call);
         boolean fine = !DUE.anyWrong();
         DUE.is("run " + run + ", " + call, got, want);
@@ -41,24 +43,26 @@ public final class ModelTest {
     }
 
     private void go() {
-        int calls = 0;
         if (random.nextInt(10) > 0) {
-            calls += writeText(sawText(), true) + writeText(boardText(), false);
+            writeText(sawText(), true);
+            writeText(boardText(), false);
         }
-        while (calls < 500) {
+        // What the document promises ends with the 512th call; a text takes up to 82 of them.
+        while (calls < 425) {
             int pick = random.nextInt(100);
             if (pick == 0) {
-                calls += writeText(sawText(), true);
+                writeText(sawText(), true);
             } else if (pick == 1) {
-                calls += writeText(boardText(), false);
+                writeText(boardText(), false);
             } else if (pick == 2) {
-                calls += writeLog();
+                writeLog();
             } else {
                 pickCall(good(0, 36));
-                calls++;
             }
             due("fault()", x.fault(), m.fault());
-            due("trace()", x.trace(), m.trace());
+            if (random.nextInt(4) == 0) {
+                due("trace()", x.trace(), m.trace());
+            }
         }
     }
 
@@ -100,7 +104,7 @@ public final class ModelTest {
         return b.toString();
     }
 
-    private int writeText(String text, boolean isSaw) {
+    private void writeText(String text, boolean isSaw) {
         int k = good(0, 3);
         int lane = good(0, 2);
         int n = Math.min(text.length(), 80);
@@ -117,10 +121,9 @@ public final class ModelTest {
         } else {
             due("board" + args, x.board(k, lane, from, n), m.board(k, lane, from, n));
         }
-        return n + 2;
     }
 
-    private int writeLog() {
+    private void writeLog() {
         int k = good(0, 3);
         int lane = good(0, 2);
         int n = good(2, 7);
@@ -132,7 +135,6 @@ public final class ModelTest {
         for (int q = -2; q <= 6; q++) {
             due("log(" + k + ", " + lane + ", 0, " + n + ", " + q + ")", x.log(k, lane, 0, n, q), m.log(k, lane, 0, n, q));
         }
-        return n + 10;
     }
 
     private void pickCall(int pick) {
@@ -160,7 +162,7 @@ public final class ModelTest {
             case 11: due("off", x.off(), m.off()); break;
             case 12: due("pinched", x.pinched(), m.pinched()); break;
             case 13: due("marks " + t, x.marks(t), m.marks(t)); break;
-            case 14: int p = random.nextInt(4) == 0 ? any(-99, 99) : (int) x.where(t) + good(-9, 9); due("which " + t + " " + p, x.which(t, p), m.which(t, p)); break;
+            case 14: calls++; int p = random.nextInt(4) == 0 ? any(-99, 99) : (int) x.where(t) + good(-9, 9); due("which " + t + " " + p, x.which(t, p), m.which(t, p)); break;
             case 15: what = any(-1, 4); due("straightest " + what, x.straightest(what), m.straightest(what)); break;
             case 16: due("flaw " + k + " " + what + " " + v, x.flaw(k, what, v), m.flaw(k, what, v)); break;
             case 17: due("ofFlaw " + k + " " + what, x.ofFlaw(k, what), m.ofFlaw(k, what)); break;
@@ -186,6 +188,7 @@ public final class ModelTest {
 
     /** Reads where a cut with a flaw would be, so that sets of flaws fit now and then. */
     private void readAsFlawed(int k, int what, int v, int t) {
+        calls += 3;
         int was = x.set(k, what, v);
         long place = x.where(t);
         if (was >= 0) {
