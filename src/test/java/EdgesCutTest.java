@@ -472,6 +472,7 @@ public final class EdgesCutTest extends Bench {
         due("marks of eight unlike", with("l111;l211;l311;l411;r111;r211;r311;r411", "140").marks(0), 8);
         due("c, and l, r of BEND 0", with("l011;c911;r011", "140").marks(0), 1);
         due("l and r of one BEND", with("l111;r111", "140").marks(0), 2);
+        due("one that TAKES nothing ahead of one alike", with("l101;c210;l111;c211", "140").marks(0), 2);
         due("the first and the last alike", with("l111;r111;l111", "140").marks(0), 2);
         due("none that TAKES something", with("l901;c990", "140").marks(0), 0);
         says("UNKNOWN; STATE: there is no SAW, it was not cut.");
@@ -490,7 +491,7 @@ public final class EdgesCutTest extends Bench {
         SawLine x = with("c111;c211;c311;c411;c511;c611;c711;c811", "150");
         due("all eight", x.which(0, 1), 255);
         due("none", x.which(0, 0), 0);
-        for (int p : new int[] {MIN, MAX, MIN + 1, -1}) {
+        for (int p : new int[] {MIN, MAX, MIN + 1, -1, 257, -255, 65537, -65535}) {
             due("which(0, " + p + ")", x.which(0, p), 0);
         }
         SawLine y = with("l111;c111;c111;c111;c111;c111;c111;r111", "140");
@@ -559,6 +560,14 @@ public final class EdgesCutTest extends Bench {
         // LATE 1: PLACES -2, -8, -18 + s * 2 by 8, so -16 by 8 and 9; then by 9 -16, by 8 -17.
         y.hand(0, 0, 1);
         steersDue(y, 9, 16);
+        // LATE 1: by 0 PLACES 3, 9, 11, 9, 3, -7; by 1 the last is -13 already, by more still farther off.
+        SawLine v = with(IDLE, "170170100100100100");
+        v.hand(0, 0, 1);
+        steersDue(v, 0, 11);
+        // LATE 1: by 0 the last PLACE is 23, by 1 22, by 2 28; by 9 the last but one is 31.
+        SawLine w = with(IDLE, "100180180180130150");
+        w.hand(0, 0, 1);
+        steersDue(w, 1, 22);
         // One LINE is never steered: all are alike.
         SawLine z = with(IDLE, "180");
         z.hand(0, 9, 0);

@@ -8,6 +8,7 @@ public final class EdgesFlawsTest extends Bench {
 
     public static void main(String[] args) {
         howManyFlaws();
+        keptByOtherCalls();
         flawRefusals();
         ofFlaw();
         howManyReadings();
@@ -61,6 +62,30 @@ public final class EdgesFlawsTest extends Bench {
         x.flaw(0, 0, 0);
         x.flaw(0, 0, 0);
         return x.many(2);
+    }
+
+    private static void keptByOtherCalls() {
+        says("(no FLAWS, no READINGS then");
+        SawLine x = with("l345;c111", "140140");
+        x.flaw(0, 0, 0);
+        x.reading(0, 0);
+        x.set(0, 0, 4);
+        x.act(0, 1);
+        x.hand(1, 2, 3);
+        x.fence(5);
+        x.mend(3, 0);
+        x.likely(1);
+        x.tell(0);
+        x.sheet(3, 0, 5);
+        x.lose(3);
+        due("FLAWS behind other calls", x.many(2), 1);
+        due("READINGS behind other calls", x.many(3), 1);
+        due("back(0) behind other calls", x.back(0), 1);
+        board(x, "140140");
+        due("FLAWS behind a board", x.many(2), 1);
+        due("READINGS behind a board", x.many(3), 0);
+        saw(x, "l345;c111");
+        due("FLAWS behind a saw", x.many(2), 0);
     }
 
     private static void flawRefusals() {
@@ -198,12 +223,11 @@ public final class EdgesFlawsTest extends Bench {
         due("one twice", z.likely(0), 1);
         z.reading(1, 2);
         due("one that is not so", z.likely(0), 0);
-        z.back(1);
-        z.reading(0, MIN);
-        due("the least place", z.likely(0), 0);
-        z.back(1);
-        z.reading(0, MAX);
-        due("the greatest place", z.likely(0), 0);
+        for (int place : new int[] {MIN, MAX, 257, -255, 65537, -65535, MIN + 1, -1}) {
+            z.back(1);
+            z.reading(0, place);
+            due("the place " + place, z.likely(0), 0);
+        }
     }
 
     private static void oneAfterAnother() {
@@ -422,6 +446,10 @@ public final class EdgesFlawsTest extends Bench {
         row("one less", x, 5, 2, 2, 1, 1);
         row("just enough", x, 4, 2, 2, 1, 1);
         row("two STONES are not enough", x, 3, 1, 4, 3, NONE);
+        row("none is needed, asked again", x, 8, 0, 0, NONE, NONE);
+        x.hand(9, 0, 0);
+        row("two acts again", x, 13, 2, 2, 1, 1);
+        noRow("no act is of use", x, 5);
         SawLine y = with("r995;r995;r995", "140");
         noRow("three acts would be needed", y, 0);
         SawLine z = with("l999;l999", "140");

@@ -296,8 +296,22 @@ public final class EdgesSawTest extends Bench {
         due("LINES", x.many(1), 2);
         due("the first FLAW then", x.flaw(1, 0, 0), 0);
         due("the first READING then", x.reading(0, 0), 0);
-        due("a SAW of fewer TEETH", saw(x, "c000"), 1);
+        fewerTeeth();
+    }
+
+    /** Teeth of a longer saw are gone: they neither push nor leave anything. */
+    private static void fewerTeeth() {
+        SawLine x = with("c111;r999h;l555;r333;l444h;r111;l222;r999", "140");
+        due("a SAW of fewer TEETH", saw(x, "c111"), 1);
         due("TOOTH 1 then", x.ofTooth(1, 0), UNKNOWN);
+        due("PUSH then", x.ofSaw(0), 0);
+        due("KERF then", x.ofSaw(1), 1);
+        due("TAKEN then", x.ofSaw(2), 1);
+        due("MARKS then", x.marks(0), 1);
+        due("TEETH at PLACE 9 then", x.which(0, 9), 0);
+        due("a faulty text of more", saw(x, "r999;r999;x"), -110);
+        due("PUSH then", x.ofSaw(0), 0);
+        due("TAKEN then", x.ofSaw(2), 1);
     }
 
     private static void ofTooth() {
