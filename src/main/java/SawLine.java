@@ -1179,6 +1179,8 @@ public final class SawLine {
     /** A log. Which pieces there are follows from the set of cuts made, so costs go by sets. */
     private static final class Slabs {
         static final int LEAST_SLABS = 2, MOST_SLABS = 7, MOST_CUTS = 6, MOST_STRAIN = 9;
+        /** Six cuts cost 378 at most: each of them no more than seven strains of nine. */
+        static final int ABOVE_ANY_COST = 1000;
 
         private int cuts = 0;
         private final int[] strains = new int[MOST_SLABS];
@@ -1204,7 +1206,7 @@ public final class SawLine {
             int all = (1 << cuts) - 1;
             leastFrom[all] = 0;
             for (int made = all - 1; made >= 0; made--) {
-                leastFrom[made] = Integer.MAX_VALUE;
+                leastFrom[made] = ABOVE_ANY_COST;
                 for (int c = 0; c < cuts; c++) {
                     if (isOpen(made, c)) {
                         leastFrom[made] = Math.min(leastFrom[made], costThrough(made, c));

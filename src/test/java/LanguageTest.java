@@ -26,6 +26,10 @@ public final class LanguageTest {
         "int copy(int,int,int,int,int)", "int tell(int)", "int joint(int)", "int as(int,int)",
         "int trace()", "int fault()", "int many(int)"};
 
+    /** What the class uses of the library, all of it listed by rule 4; MIN_VALUE is the face's LOST. */
+    private static final Set<String> LIBRARY = Set.of("Math.abs", "Math.max", "Math.min", "Integer.bitCount",
+        "System.arraycopy", "Long.MIN_VALUE");
+
     private LanguageTest() {
     }
 
@@ -117,7 +121,16 @@ public final class LanguageTest {
         while (made.find()) {
             DUE.holds("made with the object: " + made.group().trim(), made.group(1).contains("private final"));
         }
+        library(code);
         shortMethods(code);
+    }
+
+    private static void library(String code) {
+        Matcher used = Pattern.compile("\\b[A-Z]\\w*[a-z]\\w*\\.\\w+").matcher(code);
+        while (used.find()) {
+            boolean own = code.contains(" class " + used.group().substring(0, used.group().indexOf('.')) + " {");
+            DUE.holds("listed by rule 4: " + used.group(), own || LIBRARY.contains(used.group()));
+        }
     }
 
     private static void shortMethods(String code) {
